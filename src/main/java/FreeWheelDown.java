@@ -415,17 +415,20 @@ public final class FreeWheelDown {
             return refuse(OTHER);
         }
         mind.becomeLike(now);
-        int ways = now.riders + 1;
         int best = 0;
         int farthest = -1;
-        for (int way = 0; way < ways * ways * ways; way++) {
-            put(mind.changes, a, riderOfWay(way / (ways * ways)));
-            put(mind.changes, b, riderOfWay(way / ways % ways));
-            put(mind.changes, c, riderOfWay(way % ways));
-            int end = trip.endOf(mind);
-            if (end > farthest) {
-                farthest = end;
-                best = 100 * digitOfChange(mind, a) + 10 * digitOfChange(mind, b) + digitOfChange(mind, c);
+        for (int i = 0; i <= now.riders; i++) {
+            put(mind.changes, a, riderOfWay(i));
+            for (int j = 0; j <= now.riders; j++) {
+                put(mind.changes, b, riderOfWay(j));
+                for (int k = 0; k <= now.riders; k++) {
+                    put(mind.changes, c, riderOfWay(k));
+                    int end = trip.endOf(mind);
+                    if (end > farthest) {
+                        farthest = end;
+                        best = 100 * digitOfWay(i) + 10 * digitOfWay(j) + digitOfWay(k);
+                    }
+                }
             }
         }
         return what == 0 ? best : farthest;
@@ -679,9 +682,8 @@ public final class FreeWheelDown {
         return way == 0 ? NONE : way - 1;
     }
 
-    private static int digitOfChange(Hill hill, int stretch) {
-        int rider = get(hill.changes, stretch);
-        return rider == NONE ? 9 : rider;
+    private static int digitOfWay(int way) {
+        return way == 0 ? 9 : way - 1;
     }
 
     private int fewestChanges() {

@@ -147,21 +147,51 @@ public final class RandomHillsTest {
     }
 
     public static void main(String[] args) {
-        for (int i = 0; i < 1500; i++) {
+        for (int i = 0; i < 700; i++) {
             Model m = random();
             FreeWheelDown x = m.object();
-            m.ride();
-            theRide(m, x);
-            theSteps(m, x);
-            starts(m, x);
-            changes(m, x);
-            riders(m, x);
-            rows(m, x);
-            twoAndWind(m, x);
-            otherHills(m, x);
-            lots(m, x);
+            for (int k = 0; k < 24; k++) {
+                m.ride();
+                ask(m, x, RANDOM.nextInt(9));
+                m = changed(m, x);
+            }
         }
         Check.end();
+    }
+
+    private static void ask(Model m, FreeWheelDown x, int which) {
+        switch (which) {
+            case 0: theRide(m, x); break;
+            case 1: theSteps(m, x); break;
+            case 2: starts(m, x); break;
+            case 3: changes(m, x); break;
+            case 4: riders(m, x); break;
+            case 5: rows(m, x); break;
+            case 6: twoAndWind(m, x); break;
+            case 7: otherHills(m, x); break;
+            default: lots(m, x); break;
+        }
+    }
+
+    /** Changes the hill between two questions, so that an answer from what an earlier one left behind is seen. */
+    private static Model changed(Model m, FreeWheelDown x) {
+        Model other = m.copy();
+        int n = m.stretches.length;
+        if (n > 0 && m.riders.length > 0 && RANDOM.nextInt(3) > 0) {
+            int s = RANDOM.nextInt(n);
+            other.stretches[s][2] = RANDOM.nextInt(m.riders.length + 1) - 1;
+            x.waits(s, other.stretches[s][2]);
+        }
+        if (RANDOM.nextInt(2) == 0) {
+            other.start = RANDOM.nextInt(RANDOM.nextInt(4) == 0 ? 100 : 40);
+            x.starts(other.start);
+        }
+        if (n < 10 && RANDOM.nextInt(12) == 0) {
+            other.stretches = Arrays.copyOf(other.stretches, n + 1);
+            other.stretches[n] = new int[] {RANDOM.nextInt(6), RANDOM.nextInt(10), -9};
+            x.stretch(other.stretches[n][0], other.stretches[n][1]);
+        }
+        return other;
     }
 
     private static void theRide(Model m, FreeWheelDown x) {
@@ -210,6 +240,9 @@ public final class RandomHillsTest {
     }
 
     private static void theSteps(Model m, FreeWheelDown x) {
+        if (x.count(3) > 900) {
+            return;
+        }
         x.begins();
         for (int k = 0; k <= 11; k++) {
             boolean over = k >= m.at;

@@ -127,6 +127,10 @@ public final class RideTest {
         x.waits(0, 1);
         ride(x, 5, 3, 26, 2, 1);
         Check.due("the first one is idle", x.waiting(1), Check.bits(0));
+        for (int s = 1; s < 4; s++) {
+            x.waits(s, -1);
+        }
+        Check.due("one waits at the first stretch", x.waiting(0), Check.bits(1));
     }
 
     private static void whoWaitsForHimself() {

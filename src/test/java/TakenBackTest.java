@@ -7,6 +7,8 @@ public final class TakenBackTest {
 
     public static void main(String[] args) {
         eachIsTakenBack();
+        theBicycleIsTakenBack();
+        ridesBehindARestore();
         alsoWhatChangesNothing();
         eightAtMost();
         whatLeavesNone();
@@ -18,6 +20,9 @@ public final class TakenBackTest {
     private static void eachIsTakenBack() {
         FreeWheelDown x = Check.hill(HILL);
         Check.due("none", x.back(), -3);
+        x.waits(0, 1);
+        Check.due("back()", x.back(), 0);
+        Check.due("who waits at the first", x.stretchOf(0, 2), -9);
         x.waits(2, 0);
         x.starts(30);
         x.begins();
@@ -41,6 +46,65 @@ public final class TakenBackTest {
         Check.due("who waits", x.stretchOf(2, 2), -9);
         Check.due("other changes", x.stretchOf(1, 2), 1);
         Check.due("none more", x.back(), -3);
+    }
+
+    private static void bicycle(String when, FreeWheelDown x, int at, int speed, int rider, int how, int steps) {
+        Check.due(when + ": at", x.bicycle(0), at);
+        Check.due(when + ": speed", x.bicycle(1), speed);
+        Check.due(when + ": rider", x.bicycle(2), rider);
+        Check.due(when + ": how", x.bicycle(3), how);
+        Check.due(when + ": steps", x.count(3), steps);
+    }
+
+    /** Each state of the bicycle is another one, so that each number of it must be what it was. */
+    private static void theBicycleIsTakenBack() {
+        FreeWheelDown x = Check.hill(HILL);
+        x.steps(1);
+        bicycle("one step", x, 1, 16, 0, 0, 1);
+        x.steps(1);
+        bicycle("two steps", x, 2, 32, 1, 0, 2);
+        x.steps(1);
+        bicycle("three steps", x, 3, 41, 1, 3, 3);
+        x.begins();
+        bicycle("begun", x, 0, 20, 0, 0, 3);
+        x.starts(31);
+        x.begins();
+        x.steps(60);
+        bicycle("fallen", x, 0, 31, 0, 2, 4);
+        x.begins();
+        Check.due("back()", x.back(), 7);
+        bicycle("fallen again", x, 0, 31, 0, 2, 4);
+        Check.due("back()", x.back(), 6);
+        bicycle("begun with 31", x, 0, 31, 0, 0, 3);
+        x.back();
+        x.back();
+        bicycle("begun again", x, 0, 20, 0, 0, 3);
+        Check.due("back()", x.back(), 3);
+        bicycle("three steps again", x, 3, 41, 1, 3, 3);
+        Check.due("back()", x.back(), 2);
+        bicycle("two steps again", x, 2, 32, 1, 0, 2);
+        Check.due("back()", x.back(), 1);
+        bicycle("one step again", x, 1, 16, 0, 0, 1);
+    }
+
+    /** What was seen on an earlier ride is not seen on a later one. */
+    private static void ridesBehindARestore() {
+        FreeWheelDown x = new FreeWheelDown();
+        x.image();
+        Check.tell(x, HILL + "c01;");
+        x.hill();
+        x.ride(0);
+        x.restore();
+        Check.due("fastest(0)", x.fastest(0), -9);
+        Check.due("ride(3)", x.ride(3), 0);
+        Check.due("ride(4)", x.ride(4), 0);
+        Check.due("waiting(2)", x.waiting(2), -9);
+        Check.due("mean(1)", x.mean(1), 1);
+        Check.tell(x, HILL);
+        x.hill();
+        Check.due("late", x.waiting(2), 1);
+        x.waits(1, -1);
+        Check.due("late no more", x.waiting(2), -9);
     }
 
     private static void alsoWhatChangesNothing() {

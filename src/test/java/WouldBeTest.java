@@ -44,6 +44,11 @@ public final class WouldBeTest {
         bestStart("no stretches", Check.hill("r11;"), 0, 0, 0);
         bestStart("no riders", Check.hill("s00;"), 0, 0, -9);
         FreeWheelDown x = fair();
+        x.ride(0);
+        x.waits(1, 1);
+        Check.due("by the changes as they are", x.bestStart(2), -9);
+        x.back();
+        Check.due("by the changes as they are", x.bestStart(2), 5);
         x.bestStart(0);
         Check.due("start stays", x.count(2), 18);
     }
@@ -141,6 +146,17 @@ public final class WouldBeTest {
         x = Check.hill("s10;s00;s00;s00;s00;r10;r19;v90;");
         Check.due("one alone can do nothing", x.two(0, 1), 0);
         Check.due("no such stretch there", x.two(1, 0), -9);
+        String roads = "s09;".repeat(10);
+        x = Check.hill(roads + "r10;r90;v30;");
+        Check.due("he who runs gets up at 10 more", x.two(0, 1), 1);
+        x.starts(31);
+        Check.due("not at 11 more, so the first brakes", x.two(0, 1), 10);
+        x.starts(20);
+        Check.due("he gets up anyway", x.two(0, 1), 0);
+        x = Check.hill("s59;s10;" + "s09;".repeat(8) + "r14;r92;v52;");
+        Check.due("both", x.two(0, 1), 11);
+        Check.due("who waits stays", x.stretchOf(0, 2), -9);
+        Check.due("the start stays", x.count(2), 52);
     }
 
     private static void wind(FreeWheelDown x, int n, int t, long above, long below) {
