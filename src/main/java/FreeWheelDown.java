@@ -693,7 +693,7 @@ public final class FreeWheelDown {
         int best = had;
         for (int bits = 0; bits < 1 << now.stretches; bits++) {
             boolean fewer = Integer.bitCount(bits) < Integer.bitCount(best);
-            if ((bits & ~had) == 0 && fewer && endKeeping(bits) == goal) {
+            if ((bits & ~had) == 0 && fewer && endKeeping(bits) >= goal) {
                 best = bits;
             }
         }
@@ -1279,11 +1279,10 @@ public final class FreeWheelDown {
             hill.begin();
             if (hill.hasRider(first)) {
                 hill.rider = first;
-                rode = 1 << first;
             }
-            noteBeginning(hill);
             for (int i = 0; i < MOST_STRETCHES && hill.how == GOES; i++) {
                 int stretch = hill.at;
+                noteBeginning(hill);
                 if (stretch == brakeAt) {
                     hill.speed = hill.speed / 2;
                 }
@@ -1291,18 +1290,24 @@ public final class FreeWheelDown {
                 int run = stretch == runAt ? RUN : 0;
                 noteChange(hill, run);
                 hill.step(run, hasBit(winds, stretch) ? WIND : 0);
+                noteRider(hill);
                 if (hill.at > stretch) {
                     put(overs, stretch, hill.rider);
                     put(gains, stretch, hill.speed - ahead);
-                    noteBeginning(hill);
                 }
             }
         }
 
+        /** A stretch begins in a ride only if a step is made from there: none does without riders. */
         private void noteBeginning(Hill hill) {
-            if (hill.hasStretch(hill.at)) {
-                put(speeds, hill.at, hill.speed);
-                came = hill.at + 1;
+            put(speeds, hill.at, hill.speed);
+            came = hill.at + 1;
+        }
+
+        /** He rode who was on the bicycle in a step, behind the change: who hands over at once did not. */
+        private void noteRider(Hill hill) {
+            if (hill.hasRider(hill.rider)) {
+                rode |= 1 << hill.rider;
             }
         }
 
@@ -1316,7 +1321,6 @@ public final class FreeWheelDown {
                 return;
             }
             late = hill.at;
-            rode |= 1 << waiter;
             if (hill.isStraight(hill.at) && waiter != hill.rider) {
                 wed++;
             }

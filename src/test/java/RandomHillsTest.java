@@ -61,11 +61,8 @@ public final class RandomHillsTest {
             Arrays.fill(overs, -9);
             late = -9;
             rider = riders.length == 0 ? -9 : first;
-            rode = riders.length == 0 ? 0 : 1 << first;
+            rode = 0;
             how = riders.length == 0 ? 1 : stretches.length == 0 ? 3 : 0;
-            if (stretches.length > 0) {
-                speeds[0] = start;
-            }
             while (how == 0) {
                 step();
             }
@@ -79,6 +76,7 @@ public final class RandomHillsTest {
             if (s[2] >= 0) {
                 change(s);
             }
+            rode |= 1 << rider;
             if (speed > holds(s[0])) {
                 how = 2;
                 return;
@@ -107,11 +105,10 @@ public final class RandomHillsTest {
             }
             late = at;
             rider = s[2];
-            rode |= 1 << rider;
         }
 
         int came() {
-            return Math.min(at + 1, stretches.length);
+            return riders.length == 0 ? 0 : Math.min(at + 1, stretches.length);
         }
 
         FreeWheelDown object() {
@@ -291,7 +288,7 @@ public final class RandomHillsTest {
                 kept.stretches[s][2] = (bits >> s & 1) == 1 ? kept.stretches[s][2] : -9;
             }
             boolean better = Integer.bitCount(bits) <= Integer.bitCount(best);
-            best = better && kept.ride().at == m.at ? bits : best;
+            best = better && kept.ride().at >= m.at ? bits : best;
             if (bits == 0) {
                 break;
             }

@@ -12,6 +12,7 @@ public final class RideTest {
         aRideThatStands();
         changesThatFail();
         whoWaitsForHimself();
+        whoHandsOverAtOnce();
         inMind();
         withoutRiders();
         withoutStretches();
@@ -125,7 +126,7 @@ public final class RideTest {
         ride(x, 5, 3, 26, 2, 1);
         Check.due("waiting(2)", x.waiting(2), 2);
         x.waits(0, 1);
-        ride(x, 5, 3, 26, 2, 1);
+        ride(x, 5, 3, 26, 1, 1);
         Check.due("the first one is idle", x.waiting(1), Check.bits(0));
         for (int s = 1; s < 4; s++) {
             x.waits(s, -1);
@@ -161,19 +162,34 @@ public final class RideTest {
         Check.due("steps", x.count(3), 3);
     }
 
-    /** The bicycle is at stretch 0 and stands there: no stretch is got over, but it is as fast as it starts. */
+    /** Who hands over as the first stretch begins did not ride; who falls or stands on it did. */
+    private static void whoHandsOverAtOnce() {
+        FreeWheelDown x = Check.hill("s00;s10;r10;r10;r10;c01;c12;v11;");
+        ride(x, 1, 2, 12, 2, 0);
+        x.waits(0, 0);
+        ride(x, 1, 2, 12, 2, 0);
+        x.waits(1, -1);
+        ride(x, 1, 2, 12, 1, 0);
+        ride(Check.hill("s10;r10;v11;"), 0, 2, 11, 1, 0);
+        ride(Check.hill("s10;r10;r10;c01;v11;"), 0, 2, 11, 1, 0);
+        ride(Check.hill("s10;r10;r10;c01;v00;"), 0, 1, 0, 1, 0);
+        ride(Check.hill("s09;s00;r10;r19;r10;c01;c12;v28;"), 2, 3, 21, 2, 0);
+        ride(Check.hill("s09;s00;r10;r19;r10;c01;c12;v38;"), 2, 3, 31, 1, 1);
+    }
+
+    /** No step is made, so that no stretch begins in the ride: as if there were none. */
     private static void withoutRiders() {
         FreeWheelDown x = Check.hill("s30;s00;");
         ride(x, 0, 1, 9, 0, 0);
-        Check.due("fastest(0)", x.fastest(0), 9);
-        Check.due("fastest(1)", x.fastest(1), 0);
-        Check.due("above(9)", x.above(9), 0);
-        Check.due("above(10)", x.above(10), -9);
+        Check.due("fastest(0)", x.fastest(0), -9);
+        Check.due("fastest(1)", x.fastest(1), -9);
+        Check.due("above(0)", x.above(0), -9);
+        Check.due("above(9)", x.above(9), -9);
         Check.due("smithy()", x.smithy(), -9);
         Check.due("who(0)", x.who(0), -9);
         Check.due("gain(0)", x.gain(0), 0);
         Check.due("shares(-1)", x.shares(-1), 0);
-        Check.due("mean(0)", x.mean(0), 9);
+        Check.due("mean(0)", x.mean(0), 0);
         Check.due("mean(1)", x.mean(1), 1);
         Check.due("lightest(0)", x.lightest(0), -9);
         Check.due("lightest(1)", x.lightest(1), -9);
@@ -184,7 +200,7 @@ public final class RideTest {
 
     private static void withoutStretches() {
         FreeWheelDown x = Check.hill("r11;r22;");
-        ride(x, 0, 3, 9, 1, 0);
+        ride(x, 0, 3, 9, 0, 0);
         Check.due("fastest(0)", x.fastest(0), -9);
         Check.due("fastest(1)", x.fastest(1), -9);
         Check.due("above(0)", x.above(0), -9);

@@ -95,6 +95,13 @@ public final class RowTest {
         whatKind(x, 0, Check.bits(1, 3), 0);
         Check.row(x, 97, 0, 0);
         whatKind(x, 0, -3, -3);
+        // Without riders no stretch begins, whatever is told of it.
+        x = Check.hill("s00;s10;");
+        whatKind(x, 1, 63, ALL_FIGURES);
+        Check.row(x, 0, 0);
+        whatKind(x, 0, 63, ALL_FIGURES);
+        Check.row(x, 9);
+        whatKind(x, 0, 0, 0);
     }
 
     private static void startTold() {
@@ -112,6 +119,13 @@ public final class RowTest {
         Check.due("startTold(1)", x.startTold(1), 31);
         Check.row(x, 31, 0, 0, 0, 0, 0, 0, 0);
         Check.due("startTold(0)", x.startTold(0), -3);
+        x = Check.hill("s00;s00;");
+        Check.row(x, 0, 0);
+        Check.due("no riders", x.startTold(0), 100);
+        Check.due("no riders", x.startTold(1), 0);
+        Check.row(x, 9);
+        Check.due("no riders", x.startTold(0), 0);
+        Check.due("no riders", x.startTold(1), -9);
         x = Check.hill("r11;");
         Check.due("no stretches", x.startTold(0), 100);
         Check.row(x, 0);

@@ -88,8 +88,12 @@ public final class WouldBeTest {
         x = foul();
         Check.due("foul: fewest(1)", x.fewest(1), Check.bits(0, 2));
         x.starts(18);
-        Check.due("as far, not farther", x.ride(0), 2);
-        Check.due("as far, not farther", x.fewest(0), Check.bits(1));
+        Check.due("farther is as far, too", x.ride(0), 2);
+        Check.due("farther is as far, too", x.fewest(0), 0);
+        // Rider 1 is wanted at the first stretch; without rider 2 at the second the ride goes farther.
+        x = Check.hill("s10;s00;s10;s00;r10;r19;r90;c01;c12;v15;");
+        Check.due("farther with fewer", x.ride(0), 2);
+        Check.due("farther with fewer", x.fewest(0), Check.bits(0));
         // Of several the least: either change brings rider 1, who holds.
         x = Check.hill("s00;s00;s10;r10;r19;c01;c11;v15;");
         Check.due("of several the least", x.fewest(0), Check.bits(0));
