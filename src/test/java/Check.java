@@ -2,6 +2,7 @@
 final class Check {
     private static int asked = 0;
     private static int wrong = 0;
+    private static String sentence = "";
 
     private Check() {
     }
@@ -10,12 +11,33 @@ final class Check {
         asked++;
         if (got != want) {
             wrong++;
-            System.out.println(call + " answered " + got + ", due is " + want);
+            System.out.println(sentence + call + " answered " + got + ", due is " + want);
         }
     }
 
     static void holds(String what, boolean isSo) {
         due(what, isSo ? 1 : 0, 1);
+    }
+
+    /** The words of the document's terms by which the next answers are due. */
+    static void terms(String words) {
+        sentence = "";
+        holds("the document's terms tell: " + words, Document.termsTell(words));
+        sentence = "Terms, \"" + words + "\": ";
+    }
+
+    /** The words of one promise by which the next answers are due. */
+    static void promise(int number, String words) {
+        sentence = "";
+        holds("Promise " + number + " tells: " + words, Document.promiseTells(number, words));
+        sentence = "Promise " + number + ", \"" + words + "\": ";
+    }
+
+    static void bicycle(FreeWheelDown x, int at, int speed, int rider, int how) {
+        due("bicycle(0)", x.bicycle(0), at);
+        due("bicycle(1)", x.bicycle(1), speed);
+        due("bicycle(2)", x.bicycle(2), rider);
+        due("bicycle(3)", x.bicycle(3), how);
     }
 
     /** An object to which a hill has been told in letters. */
