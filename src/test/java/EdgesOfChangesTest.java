@@ -280,6 +280,8 @@ public final class EdgesOfChangesTest {
         Check.due("the last", Check.hill("s00;s00;s00;s00;s00;s00;s00;s00;s00;s10;r10;").cut(), 9);
         Check.due("of several the least", Check.hill("s00;s09;s09;r10;v15;").cut(), 1);
         Check.due("the only one", Check.hill("s10;r10;v15;").cut(), 0);
+        Check.due("who waits there goes with it", Check.hill("s00;s10;r19;r90;c01;v15;").cut(), 0);
+        Check.due("who waits behind it comes along", Check.hill("s10;s00;s10;r10;r19;c11;v15;").cut(), 0);
     }
 
     private static void cutNone() {
@@ -322,6 +324,9 @@ public final class EdgesOfChangesTest {
         Check.due("of several the least", Check.hill("s10;s10;s10;r10;v11;").brake(), 0);
         Check.due("the last", Check.hill("s06;s06;s06;s06;s06;s06;s06;s06;s29;s10;r60;v01;").brake(), 9);
         Check.due("the farthest", Check.hill("s01;s39;s01;s10;r19;v55;").brake(), 0);
+        Check.due("RIDER 0 brakes", Check.hill("s10;r10;r19;v22;").brake(), -9);
+        Check.due("who waits gets up at half", Check.hill("s10;r10;r19;c01;v77;").brake(), 0);
+        Check.due("who waits does not run", Check.hill("s10;r10;r19;c01;v78;").brake(), -9);
         Check.due("where it would not STAND", Check.hill("s09;s29;s10;r50;v09;").brake(), 2);
     }
 

@@ -272,6 +272,9 @@ public final class EdgesOfRidesTest {
         FreeWheelDown x = Check.hill("s09;s30;r99;r90;r10;c11;v08;");
         Check.due("it ends", x.ride(0), 1);
         Check.due("0 farther, 1 as far, 2 less far", x.fewest(1), 3);
+        Check.due("CHANGES are none", Check.hill("s10;s00;r10;r19;c00;c11;v11;").fewest(1), 3);
+        Check.due("CHANGES are none", Check.hill("s10;s00;r10;r19;c01;v11;").fewest(1), 2);
+        Check.due("just so far, without WIND", Check.hill("s00;s14;r10;v04;").fewest(1), 1);
         Check.due("all five", Check.hill("s00;r11;r11;r11;r11;r11;").fewest(1), 31);
         Check.due("none", Check.hill("s10;s09;s09;r10;r19;r90;c01;c12;v11;").fewest(1), 0);
         Check.due("no STRETCHES", Check.hill("r11;r11;").fewest(1), 3);
@@ -502,6 +505,8 @@ public final class EdgesOfRidesTest {
         Check.due("who waits gets up anyway", Check.hill("s10;s00;s00;r10;r19;v20;").two(0, 1), 0);
         FreeWheelDown x = Check.hill("s10;s00;s00;r10;r19;v46;");
         Check.due("either alone would do: the first such pair", x.two(0, 1), 1);
+        Check.due("01 alone would not do, as the first would brake",
+            Check.hill("s10;s20;s10;s00;s00;r10;r99;v46;").two(0, 1), 10);
         Check.due("the first alone would do", Check.hill("s10;s00;s00;r10;r10;v20;").two(0, 1), 10);
         x = Check.hill("s59;s10;" + "s09;".repeat(8) + "r14;r92;v52;");
         Check.due("both must", x.two(0, 1), 11);
@@ -513,6 +518,8 @@ public final class EdgesOfRidesTest {
         Check.due("where it begins", x.two(0, 0), 10);
         Check.due("where it is FALLEN", x.two(1, 1), 0);
         Check.due("behind that", x.two(2, 1), -9);
+        x.stretch(0, 0);
+        Check.due("the last", x.two(3, 1), -9);
         x = Check.hill("s00;s19;s00;r10;v08;");
         Check.due("where it STANDS", x.two(1, 0), 0);
         Check.due("behind that", x.two(2, 0), -9);
@@ -565,6 +572,9 @@ public final class EdgesOfRidesTest {
         wind(Check.hill("s01;s01;s01;s01;s01;s01;s01;s01;r10;v40;"), 8, 20, 25599999999L, 25600000000L);
         wind(Check.hill("s01;s01;s01;s01;s01;s01;s01;s01;r10;v05;"), 8, 20, 16983563041L, 25600000000L);
         wind(Check.hill("s10;r10;v11;"), 1, 20, 0, 1);
+        wind(Check.hill("s00;r10;r90;v04;"), 1, 2, 1, 2);
+        wind(Check.hill("s10;r10;r19;c01;v39;"), 1, 2, 0, 1);
+        wind(Check.hill("s10;r10;r19;c01;v38;"), 1, 2, 1, 1);
         wind(Check.hill("s00;"), 1, 2, 0, 1);
     }
 
