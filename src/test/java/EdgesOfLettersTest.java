@@ -18,6 +18,7 @@ public final class EdgesOfLettersTest {
         firstKindEnd();
         firstKindAhead();
         secondKindPlace();
+        secondKindLessThePlace();
         outOfRange();
         noSuchOne();
         stepsAbove999();
@@ -196,6 +197,13 @@ public final class EdgesOfLettersTest {
         told("s00;c00;r11;", -2004);
         told("r11;c00;s00;", -2004);
         told("b;" + "v01;".repeat(22) + "r00;", -2090);
+    }
+
+    private static void secondKindLessThePlace() {
+        Check.terms("-2000 less the place.");
+        told("r00;", -2000);
+        told("b;r00;", -2002);
+        told("v01;".repeat(23) + "r00;", -2092);
     }
 
     private static void outOfRange() {

@@ -25,6 +25,7 @@ public final class EdgesOfRidesTest {
         who();
         bestStart();
         bestStartArrives();
+        bestChangesOthersAsNow();
         bestChanges();
         bestChangesNone();
         fewest();
@@ -33,6 +34,7 @@ public final class EdgesOfRidesTest {
         skillWanted();
         straights();
         straightsNone();
+        wedTwo();
         wed();
         rowTellsSpeeds();
         weightsTold();
@@ -56,6 +58,7 @@ public final class EdgesOfRidesTest {
         judgedNoSuchStretch();
         judgedNone();
         lotsOfCenturies();
+        lotsOfAll();
         lotsNone();
         lotsWithoutRiders();
         drawsWrap();
@@ -223,6 +226,20 @@ public final class EdgesOfRidesTest {
         bestStart("s00;", 0, 0, -9);
     }
 
+    private static void bestChangesOthersAsNow() {
+        Check.terms("of all ways to have a RIDER or none wait at three told STRETCHES (others as now)");
+        FreeWheelDown x = Check.hill("s00;s00;s00;s10;r10;r19;v15;c31;");
+        Check.due("as now", x.bestChanges(0, 1, 2, 0), 999);
+        Check.due("as now", x.bestChanges(0, 1, 2, 1), 4);
+        x.waits(3, -1);
+        Check.due("without", x.bestChanges(0, 1, 2, 0), 991);
+        Check.due("without", x.bestChanges(0, 1, 2, 1), 4);
+        x.waits(3, 0);
+        Check.due("another", x.bestChanges(0, 1, 2, 0), 999);
+        Check.due("another", x.bestChanges(0, 1, 2, 1), 3);
+        Check.due("the told one as it would be", x.bestChanges(3, 1, 2, 0), 991);
+    }
+
     private static void bestChanges() {
         Check.terms("that by which a RIDE goes farthest, of several the first "
             + "(by the told order: none first, then RIDERS by numbers)");
@@ -324,6 +341,13 @@ public final class EdgesOfRidesTest {
         Check.terms("the first of the first such; -9;");
         straights("s00;s10;s20;s30;", 0, -9);
         straights("r11;", 0, -9);
+    }
+
+    private static void wedTwo() {
+        Check.terms("WED: two RIDERS wed where one hands over to the other on one");
+        Check.due("0 to 1", Check.hill("s40;r10;r10;c01;").straights(2), 1);
+        Check.due("0 to 1, 1 to 0", Check.hill("s40;s50;r10;r10;c01;c10;").straights(2), 2);
+        Check.due("one alone", Check.hill("s40;r10;r10;c00;").straights(2), 0);
     }
 
     private static void wed() {
@@ -666,6 +690,17 @@ public final class EdgesOfRidesTest {
         Check.due("lots(21, 7, 0)", x.lots(21, 7, 0), -6);
         Check.due("no STRETCHES", Check.hill("r11;").lots(20, 7, 0), 0);
         Check.due("no STRETCHES", Check.hill("r11;").lots(20, 7, 1), 20);
+    }
+
+    private static void lotsOfAll() {
+        Check.terms("then a RIDE: STRETCHES got over by all; how many ARRIVE.");
+        FreeWheelDown x = Check.hill("s00;s10;s00;r10;v10;");
+        Check.due("FALLEN at 1, one", x.lots(1, 5, 0), 1);
+        Check.due("FALLEN at 1, twenty", x.lots(20, 5, 0), 20);
+        Check.due("none ARRIVES", x.lots(20, 5, 1), 0);
+        x.starts(9);
+        Check.due("three, twenty times", x.lots(20, 5, 0), 60);
+        Check.due("all ARRIVE", x.lots(20, 5, 1), 20);
     }
 
     private static void lotsNone() {

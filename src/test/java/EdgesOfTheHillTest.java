@@ -17,6 +17,7 @@ public final class EdgesOfTheHillTest {
         skills();
         theStart();
         arrivedIsAsManyAsThereAre();
+        fourHows();
         stepsUpTo999();
         fastestOfAll();
         roads();
@@ -160,6 +161,14 @@ public final class EdgesOfTheHillTest {
         Check.bicycle(x, 9, 18, 0, 0);
         x.steps(1);
         Check.bicycle(x, 10, 19, 0, 3);
+    }
+
+    private static void fourHows() {
+        Check.terms("a SPEED, a RIDER, HOW (0 it goes, 1 STANDS, 2 FALLEN, 3 ARRIVED)");
+        Check.bicycle(Check.hill("s00;r10;v00;b;"), 0, 0, 0, 0);
+        Check.bicycle(Check.hill("s09;r10;v08;b;g01;"), 0, 0, 0, 1);
+        Check.bicycle(Check.hill("s10;r10;v11;b;g01;"), 0, 11, 0, 2);
+        Check.bicycle(Check.hill("s00;r10;r10;r10;r10;r10;c04;v00;b;g01;"), 1, 1, 4, 3);
     }
 
     private static void stepsUpTo999() {

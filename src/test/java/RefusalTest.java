@@ -22,6 +22,7 @@ public final class RefusalTest {
         whatThereIs();
         goesOnAndHolds();
         theNumbersOfRefusals();
+        theirReasons();
         gainAndLongs();
         lettersRefused();
         stretchesRefused();
@@ -170,6 +171,25 @@ public final class RefusalTest {
             Check.due("once more", x.count(11), i);
         }
         Check.due("of another number no more", x.count(12), 1);
+    }
+
+    private static void theirReasons() {
+        Check.terms("-1 NOBODY: no such STRETCH, RIDER, one twice.");
+        refused("no such STRETCH", x -> x.who(3), -1);
+        refused("no such RIDER", x -> x.skillWanted(2), -1);
+        refused("one twice", x -> x.bestChanges(1, 2, 1, 0), -1);
+        Check.terms("-2 OTHER: what, KIND.");
+        refused("what", x -> x.ride(5), -2);
+        refused("KIND", x -> x.stretch(6, 0), -2);
+        Check.terms("-3 STATE: it is not as told.");
+        refused("no IMAGE", x -> x.restore(), -3);
+        refused(RefusalTest::full, "nothing to be TAKEN BACK", x -> x.back(), -3, -3);
+        Check.terms("-4 BELOW: a number below the least.");
+        refused("START", x -> x.starts(-1), -4);
+        refused("WEIGHT", x -> x.rider(0, 0), -4);
+        Check.terms("-6 ROOM: a number above the greatest, no room.");
+        refused("START", x -> x.starts(100), -6);
+        refusedFull("no room", x -> x.rider(1, 0), -6);
     }
 
     private static void gainAndLongs() {
