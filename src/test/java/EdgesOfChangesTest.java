@@ -231,6 +231,7 @@ public final class EdgesOfChangesTest {
     private static void lightest() {
         Check.terms("LIGHTEST: the RIDER with least WEIGHT, of several the least; -9.");
         Check.due("of several", Check.hill("r20;r19;r10;").lightest(0), 1);
+        Check.due("the first", Check.hill("r10;r20;").lightest(0), 0);
         Check.due("all alike", Check.hill("r90;r90;r90;").lightest(0), 0);
         Check.due("the last", Check.hill("r90;r90;r90;r90;r80;").lightest(0), 4);
         Check.due("no RIDERS", Check.hill("s00;").lightest(0), -9);
@@ -239,6 +240,7 @@ public final class EdgesOfChangesTest {
     private static void skilled() {
         Check.terms("SKILLED: the one with most SKILL, of several the least; -9.");
         Check.due("of several", Check.hill("r28;r19;r19;").lightest(1), 1);
+        Check.due("the first", Check.hill("r19;r18;").lightest(1), 0);
         Check.due("all alike, without any", Check.hill("r90;r90;r90;").lightest(1), 0);
         Check.due("the last", Check.hill("r10;r10;r10;r10;r11;").lightest(1), 4);
         Check.due("no RIDERS", Check.hill("s00;").lightest(1), -9);

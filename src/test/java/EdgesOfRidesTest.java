@@ -531,6 +531,8 @@ public final class EdgesOfRidesTest {
         Check.due("either alone would do: the first such pair", x.two(0, 1), 1);
         Check.due("01 alone would not do, as the first would brake",
             Check.hill("s10;s20;s10;s00;s00;r10;r99;v46;").two(0, 1), 10);
+        Check.due("01 alone would not do, as the other would not run for nothing",
+            Check.hill("s10;s00;s00;r19;r18;v88;").two(0, 1), 10);
         Check.due("the first alone would do", Check.hill("s10;s00;s00;r10;r10;v20;").two(0, 1), 10);
         x = Check.hill("s59;s10;" + "s09;".repeat(8) + "r14;r92;v52;");
         Check.due("both must", x.two(0, 1), 11);
